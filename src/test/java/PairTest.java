@@ -8,6 +8,7 @@ public final class PairTest {
     ratio();
     noPairs();
     contact();
+    contactToTheLast();
     contactRefused();
     shiftFor();
     shiftForRefused();
@@ -110,6 +111,20 @@ public final class PairTest {
         contactIs(x, pairs[i][0], pairs[i][1], low[p][i], high[p][i]);
         contactIs(x, pairs[i][1], pairs[i][0], low[p][i], high[p][i]);
       }
+    }
+  }
+
+  /** Promise 9: pairs that tell each number of the Terms from the next one, and a root that comes out even. */
+  private static void contactToTheLast() {
+    int[][] due = {
+      {35, 89, 80, -17, 1, 2136, 2137}, {6, 16, 65, 91, 0, 2547, 2549}, {65, -12, 55, 9, 2, 1533, 1535},
+      {17, -16, 9, 76, 0, 1810, 1811}, {92, 21, 8, -9, 2, 1503, 1504}, {14, 41, 18, 96, 0, 2393, 2394}};
+    for (int[] d : due) {
+      PinionBench x = Due.bench(d[0], d[2]);
+      x.shift(0, d[1]);
+      x.shift(1, d[3]);
+      x.pressure(d[4]);
+      contactIs(x, 0, 1, d[5], d[6]);
     }
   }
 

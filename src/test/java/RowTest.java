@@ -32,7 +32,8 @@ public final class RowTest {
     Due.is("23 row(0, MIN)", x.row(0, MIN), -14);
     Due.is("23 nothing changed", x.get(0, 19), 20);
     Due.is("23 row(0, 3)", x.row(0, 3), 1);
-    Due.is("23 all 0 again", x.get(0, 2), 0);
+    Due.is("23 all 0 again, the first", x.get(0, 0), 0);
+    Due.is("23 all 0 again, the last", x.get(0, 2), 0);
     Due.is("23 shorter", x.get(0, 3), VOID);
     Due.is("23 row(0, 20)", x.row(0, 20), 1);
     Due.is("23 all 0 though once more", x.get(0, 19), 0);

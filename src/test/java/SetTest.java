@@ -121,6 +121,10 @@ public final class SetTest {
     searchedIs(560, 1, 2601, 0, 1, 5, 60, 190);
     searchedIs(560, 2, 5201, 200, 0, NOT, NOT, NOT);
     searchedIs(1230, 3, 3510, 0, 1, 24, 18, 138);
+    searchedIs(1830, 4, 4311, 74, 41, 30, 28, 228);
+    searchedIs(2630, 2, 8320, 81, 22, 27, 29, 170);
+    searchedIs(2435, 5, 2306, 150, 25, 34, 31, 285);
+    searchedIs(817, 1, 6421, 158, 22, 17, 9, 61);
   }
 
   /** Promise 20: what is BAD is so for each what. */

@@ -106,6 +106,8 @@ public final class TrainTest {
     x.clear();
     x.pair(1, 3);
     Due.is("15 the first at once", x.faulty(), 0);
+    Due.is("14 the first at once", x.train(0), CLASHED);
+    Due.is("16 the first at once", x.closest(0), CLASHED);
   }
 
   private static void closestIs(PinionBench x, String call, long pair, long above, long below) {

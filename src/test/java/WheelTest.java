@@ -151,6 +151,15 @@ public final class WheelTest {
         Due.is("6 pressure " + p + ", fewest(" + shifts[i] + ")", x.fewest(shifts[i]), due[p][i]);
       }
     }
+    x.pressure(1);
+    Due.is("6 just enough, fewest(-17)", x.fewest(-17), 20);
+    Due.is("6 just too few, fewest(-18)", x.fewest(-18), 21);
+    x.wheel(20);
+    Due.is("5 just enough, of(0, 4)", x.of(0, 4), -17);
+    x.shift(0, -17);
+    Due.is("5 just enough, of(0, 2)", x.of(0, 2), 0);
+    x.shift(0, -18);
+    Due.is("5 just too little, of(0, 2)", x.of(0, 2), 1);
     for (int bad : new int[] {-51, 101, MAX, MIN}) {
       Due.is("6 fewest(" + bad + ")", x.fewest(bad), PinionBench.BAD);
     }
