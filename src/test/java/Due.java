@@ -1,7 +1,14 @@
+import java.io.IOException;
+import java.io.UncheckedIOException;
+import java.nio.file.Files;
+import java.nio.file.Path;
+
 /** Counts answers that are due and those that are not; each test's main ends with close(). */
 final class Due {
   private static int good = 0;
   private static int wrong = 0;
+  private static String words = "";
+  private static String document = "";
 
   private Due() {
   }
@@ -12,7 +19,25 @@ final class Due {
       return;
     }
     wrong++;
-    System.out.println(call + " answered " + got + ", due is " + want);
+    System.out.println(call + " answered " + got + ", due is " + want + (words.isEmpty() ? "" : " by: " + words));
+  }
+
+  /** What follows is due by these words, which must stand in the document just so. */
+  static void by(String told) {
+    words = told;
+    is("the document has these words", document().contains(told) ? 1 : 0, 1);
+  }
+
+  /** The document, each run of white space in it told as one blank. */
+  private static String document() {
+    if (document.isEmpty()) {
+      try {
+        document = Files.readString(Path.of("../shared/DOC.md")).replaceAll("\\s+", " ");
+      } catch (IOException e) {
+        throw new UncheckedIOException("run the tests from the project's folder, beside ../shared", e);
+      }
+    }
+    return document;
   }
 
   /** Feeds a text byte by byte to an empty tape and reads it. */
