@@ -22,6 +22,7 @@ public final class PairEdgeTest {
     asTheyAre();
     contactEnds();
     contactNeverNearNothing();
+    contactHoldsWhatIsTrue();
     contactByPressureAsItIs();
     contactRootsComeOutEven();
     contactCut();
@@ -305,6 +306,45 @@ public final class PairEdgeTest {
         Due.is("high of 5 and " + teeth + " shifted " + v, high == low + 1 || high == low + 2 ? 1 : 0, 1);
       }
     }
+  }
+
+  /** What two wheels mesh for, by the geometry itself instead of by whole roots, lies between the two. */
+  private static void contactHoldsWhatIsTrue() {
+    Due.by("CONTACT of a PAIR of two outward, in thousandths, between bounds by whole roots");
+    Due.by("R of a WHEEL with z TEETH, SHIFT s: with x being 50 * z + 100 + s, ROOT((4 * x * x - z * z * c) * 2500)");
+    Due.by("D is 50 times both TEETH, and both SHIFTS, together; H is ROOT(D * D * SQUARE).");
+    int[] squares = {627, 1170, 1786};
+    for (int teeth = 5; teeth <= 99; teeth++) {
+      PinionBench x = Due.bench(teeth, 104 - teeth, 7);
+      for (int turn = 0; turn < 12; turn++) {
+        int pressure = turn % 3, one = (teeth * 31 + turn * 47) % 151 - 50, other = (teeth * 17 + turn * 59) % 151 - 50;
+        x.pressure(pressure);
+        x.shift(0, one);
+        x.shift(1, other);
+        x.shift(2, other);
+        lies(x, 1, mesh(teeth, one, 104 - teeth, other, squares[pressure] / 10000.0));
+        lies(x, 2, mesh(teeth, one, 7, other, squares[pressure] / 10000.0));
+      }
+    }
+  }
+
+  /** In parts of a module: the line of action between both tip circles, by the pitch on the base circle. */
+  private static double mesh(int z, int s, int z2, int s2, double sineSquare) {
+    double cosine = Math.sqrt(1 - sineSquare), apart = (z + z2) / 2.0 + (s + s2) / 100.0;
+    return (beyondBase(z, s, cosine) + beyondBase(z2, s2, cosine) - apart * Math.sqrt(sineSquare)) / (Math.PI * cosine);
+  }
+
+  private static double beyondBase(int z, int s, double cosine) {
+    double tip = z / 2.0 + 1 + s / 100.0, base = z / 2.0 * cosine;
+    return Math.sqrt(tip * tip - base * base);
+  }
+
+  private static void lies(PinionBench x, int other, double mesh) {
+    String call = "contact(0, " + other + ") of what is " + mesh;
+    Due.is(call + ", low", x.contact(0, other, 0) <= 1000 * mesh ? 1 : 0, 1);
+    Due.is(call + ", high", x.contact(0, other, 1) >= 1000 * mesh ? 1 : 0, 1);
+    Due.is(call + ", hardly below it", x.contact(0, other, 0) >= 1000 * mesh - 2 ? 1 : 0, 1);
+    Due.is(call + ", hardly above it", x.contact(0, other, 1) <= 1000 * mesh + 2 ? 1 : 0, 1);
   }
 
   private static void contactByPressureAsItIs() {

@@ -12,6 +12,7 @@ import java.util.regex.Pattern;
 
 /** The rules of ../shared/LANGUAGE.md, as far as a short test can see them, and the document's face. */
 public final class RulesTest {
+  private static final Path DOCUMENT = Path.of("../shared/DOC.md");
   private static final String[] FACE = {
     "public int wheel(int)", "public int shift(int,int)", "public int pressure(int)", "public int of(int,int)",
     "public int fewest(int)", "public long distance(int,int,int)", "public long ratio(int,int,int)",
@@ -32,7 +33,7 @@ public final class RulesTest {
     Due.close("RulesTest");
   }
 
-  private static void face() {
+  private static void face() throws IOException {
     Set<String> due = new TreeSet<>();
     for (String f : FACE) {
       due.add(f.replace(" int ", " int PinionBench.").replace(" long ", " long PinionBench."));
@@ -49,6 +50,10 @@ public final class RulesTest {
       Due.is("private " + m.getName() + " bears a public name", hidden && names.contains(m.getName()) ? 1 : 0, 0);
     }
     Due.is("the methods are " + open, open.equals(due) ? 1 : 0, 1);
+    if (Files.exists(DOCUMENT)) {
+      Due.is("the document's methods", told(false).equals(open) ? 1 : 0, 1);
+      Due.is("the document's constants", told(true).equals(constants()) ? 1 : 0, 1);
+    }
     Due.is("the class is public and final", PinionBench.class.getModifiers(), Modifier.PUBLIC | Modifier.FINAL);
     Constructor<?>[] made = PinionBench.class.getDeclaredConstructors();
     Due.is("one constructor", made.length, 1);
@@ -60,6 +65,41 @@ public final class RulesTest {
       }
     }
     Due.is("the constants are " + fields, fields.toString().equals("[BAD, CLASH, CLASHED, FULL, NOT, STATE, VOID]") ? 1 : 0, 1);
+  }
+
+  /** What the document's section "The public face" tells, as reflection would tell it. */
+  private static Set<String> told(boolean constants) throws IOException {
+    Set<String> told = new TreeSet<>();
+    String face = Files.readString(DOCUMENT).split("```")[1];
+    for (String line : face.split("\n")) {
+      Matcher method = Pattern.compile("\\s+public (int|long) (\\w+)\\((.*)\\);").matcher(line);
+      Matcher constant = Pattern.compile("\\s+public static final (int|long) (.*);").matcher(line);
+      if (!constants && method.matches()) {
+        String kinds = method.group(3).replaceAll("(int|long) \\w+", "$1").replace(" ", "");
+        told.add("public " + method.group(1) + " PinionBench." + method.group(2) + "(" + kinds + ")");
+      }
+      if (constants && constant.matches()) {
+        for (String one : constant.group(2).split(", ")) {
+          told.add(constant.group(1) + " " + one.replace("Long.MIN_VALUE + 1", "" + (Long.MIN_VALUE + 1))
+              .replace("Long.MIN_VALUE", "" + Long.MIN_VALUE));
+        }
+      }
+    }
+    return told;
+  }
+
+  private static Set<String> constants() {
+    Set<String> open = new TreeSet<>();
+    for (Field f : PinionBench.class.getDeclaredFields()) {
+      if (f.getModifiers() == (Modifier.PUBLIC | Modifier.STATIC | Modifier.FINAL)) {
+        try {
+          open.add(f.getType() + " " + f.getName() + " = " + f.getLong(null));
+        } catch (IllegalAccessException e) {
+          throw new IllegalStateException(e);
+        }
+      }
+    }
+    return open;
   }
 
   private static void source(String text) {

@@ -19,6 +19,7 @@ public final class SetEdgeTest {
     holding();
     whichPart();
     lowestTermsAndSign();
+    turnedOver();
     spans();
     spanHoldsItsEnds();
     searchedPlanets();
@@ -32,6 +33,7 @@ public final class SetEdgeTest {
     firstByTeeth();
     firstBySun();
     searchedMustStandTogether();
+    searchedIsAsPlanetsAndTogether();
     Due.close("SetEdgeTest");
   }
 
@@ -236,6 +238,46 @@ public final class SetEdgeTest {
     planetsIs(99, 5, 2, 0, 208, 109);
     planetsIs(5, 99, 2, 0, 208, 203);
     planetsIs(99, 99, 1, 0, 3, 4);
+  }
+
+  private static void turnedOver() {
+    Due.by("HOLDING one of SUN (0), CARRIER (1), RING (2), driving another, the third one is taken:"
+        + " RATIO (turns of what drives by turns of what is taken), with r for the RING's");
+    Due.by("The other way about: turned over.");
+    int[][] sets = {{21, 15}, {5, 5}, {99, 5}, {5, 99}, {20, 10}, {37, 53}};
+    for (int[] set : sets) {
+      for (int held = 0; held < 3; held++) {
+        int one = held == 0 ? 1 : 0, other = 3 - held - one;
+        PinionBench x = new PinionBench();
+        long above = x.planets(set[0], set[1], one, held, 0), below = x.planets(set[0], set[1], one, held, 1);
+        long sign = above < 0 ? -1 : 1;
+        Due.is("minus by the carrier held alone, " + held, sign, held == 1 ? -1 : 1);
+        planetsIs(set[0], set[1], other, held, sign * below, sign * above);
+      }
+    }
+  }
+
+  /** The answers to the four whats are told by the other calls, too. */
+  private static void searchedIsAsPlanetsAndTogether() {
+    Due.by("SEARCHED (ab: 100 times a, and b; uw likewise): how many SETS are so (what 0; 0 is no NOT),"
+        + " of the first one SUN (1), PLANET (2), TEETH together (3).");
+    searchedIs(1230, 3, 3510, 5, 2, 24, 18, 138);
+    Due.by("whose RATIO SUN to CARRIER, RING held, is within t thousandths");
+    for (int uw : new int[] {301, 401, 501, 702, 1103, 1705, 2307, 4913, 9920}) {
+      for (int k = 1; k <= 5; k++) {
+        PinionBench x = new PinionBench();
+        int found = x.searched(560, k, uw, 3, 0), sun = x.searched(560, k, uw, 3, 1), planet = x.searched(560, k, uw, 3, 2);
+        String call = "searched(560, " + k + ", " + uw + ", 3), " + sun + " by " + planet;
+        Due.is(call + ", found", found > 0 ? 1 : 0, sun > 0 ? 1 : 0);
+        if (found > 0) {
+          Due.is(call + ", teeth", x.searched(560, k, uw, 3, 3), sun + k * planet + sun + 2 * planet);
+          Due.is(call + ", together", x.together(sun, planet, k), 1);
+          long above = x.planets(sun, planet, 0, 2, 0), below = x.planets(sun, planet, 0, 2, 1);
+          long u = uw / 100, w = uw % 100;
+          Due.is(call + ", near", Math.abs(above * w - u * below) * 1000 <= 3 * u * below ? 1 : 0, 1);
+        }
+      }
+    }
   }
 
   private static void searchedIs(int ab, int k, int uw, int t, int found, int sun, int planet, int teeth) {

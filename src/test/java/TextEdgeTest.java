@@ -31,6 +31,7 @@ public final class TextEdgeTest {
     emptiesTheTrain();
     nothingIsDone();
     faultAheadOfRefusal();
+    faultsAndRefusalsByTheirPlace();
     tapeIsEmpty();
     tapeStays();
     Due.close("TextEdgeTest");
@@ -463,6 +464,21 @@ public final class TextEdgeTest {
     textIs("p 3;x ", -105);
     Twins.noTrace("a fault behind good acts", Twins::usedButForTheTape, x -> Due.read(x, "w 20;p 0;x;s 0,1;q"), -117);
     Twins.noTrace("a fault behind a refused one", Twins::usedButForTheTape, x -> Due.read(x, "w 20;p 3;"), -109);
+  }
+
+  /** A fault at each place of a full tape, and a refusal behind as many acts as it holds. */
+  private static void faultsAndRefusalsByTheirPlace() {
+    Due.by("-100 less the FAULT; -200 less the ACTS ahead of the one refused.");
+    for (int acts = 0; acts < 40; acts++) {
+      String ahead = acts == 0 ? "" : times(acts, "x") + ";";
+      faultIs(ahead + "?", 2 * acts);
+      faultIs(ahead, 2 * acts);
+      if (2 * acts + 3 <= 80) {
+        textIs(ahead + "p 3", -200 - acts);
+      }
+    }
+    faultIs(times(40, "x") + "?", 79);
+    faultIs(times(40, "x") + ";", 80);
   }
 
   private static void tapeIsEmpty() {

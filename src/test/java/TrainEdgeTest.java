@@ -18,6 +18,7 @@ public final class TrainEdgeTest {
     trainSign();
     trainEnds();
     trainOrder();
+    anyWheelFollows();
     faultyFirst();
     faultyOn();
     closestOfNone();
@@ -197,6 +198,22 @@ public final class TrainEdgeTest {
   }
 
   /** Of nine pairs one clashes, at each place, alone and with another behind it. */
+  /** What is on the shaft may be another wheel, the same one (between two), or the one that drove. */
+  private static void anyWheelFollows() {
+    Due.by("the first WHEEL drives the second; the next PAIR's first one sits on the same shaft as the second of the one ahead.");
+    PinionBench x = Due.bench(20, 50, 15, 45, -90);
+    Due.is("pair(0, 1)", x.pair(0, 1), 1);
+    trainIs(x, "one pair", -5, 2);
+    Due.is("pair(2, 3), other wheels", x.pair(2, 3), 2);
+    trainIs(x, "two pairs", 15, 2);
+    Due.is("pair(3, 2), the same wheel between", x.pair(3, 2), 3);
+    trainIs(x, "three pairs", -5, 2);
+    Due.is("pair(3, 4), into a ring", x.pair(3, 4), 4);
+    trainIs(x, "four pairs", -5, 1);
+    Due.is("pair(0, 1), as at first", x.pair(0, 1), 5);
+    trainIs(x, "five pairs", 25, 2);
+  }
+
   private static void faultyFirst() {
     Due.by("The first PAIR from which THE TRAIN is FAULTY; NOT.");
     Due.is("a new object", new PinionBench().faulty(), NOT);

@@ -6,6 +6,7 @@ public final class WheelEdgeTest {
 
   public static void main(String[] args) {
     constants();
+    badOfThoseBelowNothing();
     newObject();
     sixteenWheels();
     teethTaken();
@@ -14,6 +15,7 @@ public final class WheelEdgeTest {
     shiftsTaken();
     shiftOfWhichWheel();
     pressuresTaken();
+    squares();
     limitToTheLast();
     limitJustKept();
     ringIsNeither();
@@ -45,6 +47,29 @@ public final class WheelEdgeTest {
     Due.by("VOID: the least long; CLASHED: one more than that.");
     Due.is("VOID", PinionBench.VOID, -9223372036854775807L - 1);
     Due.is("CLASHED", PinionBench.CLASHED, -9223372036854775807L);
+  }
+
+  private static void badOfThoseBelowNothing() {
+    Due.by("Where it may be below 0, -1000 stands for BAD.");
+    PinionBench x = Due.bench(20);
+    Due.is("shift(1, 0)", x.shift(1, 0), -1000);
+    Due.is("of(1, 0)", x.of(1, 0), -1000);
+    Due.is("shiftFor(0, 1, 1, 1)", x.shiftFor(0, 1, 1, 1), -1000);
+    Due.is("together(4, 5, 1)", x.together(4, 5, 1), -1000);
+    Due.by("BAD (-1): no such one, a number out of its range.");
+    Due.is("wheel(4)", x.wheel(4), -1);
+    Due.is("pressure(3)", x.pressure(3), -1);
+    Due.is("fewest(101)", x.fewest(101), -1);
+    Due.is("wheels(4)", x.wheels(4), -1);
+    Due.is("pair(0, 1)", x.pair(0, 1), -1);
+    Due.is("most(4, 5)", x.most(4, 5), -1);
+    Due.is("searched(504, 1, 401, 0, 0)", x.searched(504, 1, 401, 0, 0), -1);
+    Due.is("feed(31)", x.feed(31), -1);
+    Due.is("row(3, 0)", x.row(3, 0), -1);
+    Due.is("put(3, 0, 0)", x.put(3, 0, 0), -1);
+    Due.is("lay(3)", x.lay(3), -1);
+    Due.is("judge(3)", x.judge(3), -1);
+    Due.is("count(5)", x.count(5), -1);
   }
 
   private static void newObject() {
@@ -171,6 +196,31 @@ public final class WheelEdgeTest {
   /** The least shift by a division: TEETH * SQUARE by 200, cut, is how far it may be below 100. */
   private static int least(int teeth, int pressure) {
     return Math.max(-50, 100 - teeth * SQUARES[pressure] / 200);
+  }
+
+  /** By these TEETH and SHIFTS a SQUARE of one less (the first of each), or one more, would tell another LIMIT. */
+  private static void squares() {
+    Due.by("its SQUARE (of the sine, in ten thousandths): 627, 1170, 1786.");
+    int[][] kept = {{0, 15, 53}, {0, 46, -44}, {1, 13, 24}, {2, 14, -25}};
+    for (int[] k : kept) {
+      undercutIs(k[0], k[1], k[2], 0);
+    }
+    // No TEETH tell 1170 from 1171 here: CONTACT does.
+    int[][] under = {{0, 22, 31}, {0, 44, -38}, {2, 15, -34}};
+    for (int[] u : under) {
+      undercutIs(u[0], u[1], u[2], 1);
+    }
+  }
+
+  private static void undercutIs(int pressure, int teeth, int shift, int due) {
+    PinionBench x = Due.bench(teeth);
+    x.pressure(pressure);
+    x.shift(0, shift);
+    String name = teeth + " shifted " + shift + ", pressure " + pressure;
+    Due.is(name + ", undercut", x.of(0, 2), due);
+    Due.is(name + ", wheels undercut", x.wheels(0), due);
+    Due.is(name + ", least shift", x.of(0, 4), shift + due);
+    Due.is(name + ", as few as may be", x.fewest(shift), teeth + due);
   }
 
   private static void limitToTheLast() {
